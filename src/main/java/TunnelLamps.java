@@ -515,7 +515,7 @@ public final class TunnelLamps {
             return readNumbers(command);
         }
 
-        private static int actionOf(char letter) {
+        private static int actionOf(int letter) {
             switch (letter) {
                 case 'g': return Command.GALLERY;
                 case 'm': return Command.MINER;

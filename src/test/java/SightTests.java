@@ -18,6 +18,7 @@ final class SightTests {
         tests.add(new Check.Test("promise 9: lampOf refuses", SightTests::lampOfRefuses));
         tests.add(new Check.Test("promise 10: lad", SightTests::lad));
         tests.add(new Check.Test("promise 10: steps for all orders", SightTests::ladSteps));
+        tests.add(new Check.Test("promise 10: the most steps", SightTests::mostLadSteps));
         tests.add(new Check.Test("promise 10: lad refuses", SightTests::ladRefuses));
         tests.add(new Check.Test("promise 11: orderOf", SightTests::orderOf));
         tests.add(new Check.Test("promise 11: orderOf refuses", SightTests::orderOfRefuses));
@@ -218,6 +219,19 @@ final class SightTests {
         Check.equal("without the second", 39, x.lad(3));
         x.hours(1);
         Check.equal("behind the fetching", 27, x.lad(3));
+    }
+
+    private static void mostLadSteps() {
+        TunnelLamps x = new TunnelLamps();
+        x.gallery(60);
+        x.gallery(60);
+        for (int l = 0; l < 6; l++) {
+            x.lamp(0, 59, 1, 0);
+        }
+        for (int l = 0; l < 6; l++) {
+            x.hang(l, 1, 59);
+            Check.equal("there and back, to the far ends", 59 + 118 + l * 236, x.lad(3));
+        }
     }
 
     private static void ladRefuses() {
