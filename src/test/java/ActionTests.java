@@ -327,43 +327,35 @@ final class ActionTests {
         Check.equal("setting 1 is kept", 0, x.set(1, 0));
     }
 
-    private static void undoOne(String name, Check.Call action, TunnelLamps x) {
-        String before = Check.look(x);
-        action.answer();
-        String behind = Check.look(x);
-        Check.equal("states left behind " + name, 5, x.undo());
-        Check.same(name, before, Check.look(x));
-        action.answer();
-        Check.same(name + " again", behind, Check.look(x));
-        x.undo();
-    }
-
-    private static void undoEach() {
+    private static void undoOne(String name, Twins.Ask action) {
         TunnelLamps x = smallMine();
         x.store(50);
         x.fill(0, 9);
-        Check.equal("an action less", 5, x.undo());
-        x.fill(0, 9);
-        x.undo();
-        x.undo();
-        x.store(50);
-        undoOne("gallery", () -> x.gallery(3), x);
-        undoOne("miner", () -> x.miner(1, 3), x);
-        undoOne("send", () -> x.send(0, 1), x);
-        undoOne("lamp", () -> x.lamp(0, 1, 2, 3), x);
-        undoOne("store", () -> x.store(3), x);
-        undoOne("hang", () -> x.hang(0, 0, 8), x);
-        undoOne("fill", () -> x.fill(0, 8), x);
-        undoOne("set", () -> x.set(1, 1), x);
-        undoOne("hours", () -> x.hours(60), x);
+        String before = Check.look(x);
+        action.of(x);
+        String behind = Check.look(x);
+        Check.equal("states left behind " + name, 6, x.undo());
+        Check.same(name, before, Check.look(x));
+        action.of(x);
+        Check.same(name + " again", behind, Check.look(x));
+    }
+
+    private static void undoEach() {
+        undoOne("gallery", x -> x.gallery(3));
+        undoOne("miner", x -> x.miner(1, 3));
+        undoOne("send", x -> x.send(0, 1));
+        undoOne("lamp", x -> x.lamp(0, 1, 2, 3));
+        undoOne("store", x -> x.store(3));
+        undoOne("hang", x -> x.hang(0, 0, 8));
+        undoOne("fill", x -> x.fill(0, 8));
+        undoOne("drop", x -> x.drop(0));
+        undoOne("set", x -> x.set(1, 1));
+        undoOne("hours", x -> x.hours(60));
+        undoOne("an hour", x -> x.hours(1));
+        TunnelLamps x = smallMine();
         x.set(0, 9);
         x.undo();
         Check.equal("setting 0", 4, x.set(0, 4));
-        x.undo();
-        x.undo();
-        x.fill(0, 9);
-        undoOne("drop", () -> x.drop(0), x);
-        undoOne("hours with an order", () -> x.hours(1), x);
     }
 
     private static void undoFourteen() {

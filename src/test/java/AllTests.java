@@ -12,6 +12,17 @@ public final class AllTests {
         ForecastTests.addTo(tests);
         ScriptTests.addTo(tests);
         SlotTests.addTo(tests);
+        EdgeTermsTests.addTo(tests);
+        EdgeLadTests.addTo(tests);
+        EdgeHourTests.addTo(tests);
+        EdgeTextTests.addTo(tests);
+        EdgeSightTests.addTo(tests);
+        EdgeActionTests.addTo(tests);
+        EdgeUndoTests.addTo(tests);
+        EdgeForecastTests.addTo(tests);
+        EdgeScriptTests.addTo(tests);
+        EdgeSlotTests.addTo(tests);
+        DocumentTests.addTo(tests);
         SourceTests.addTo(tests);
         RandomRunTests.addTo(tests);
         int failed = 0;

@@ -4,7 +4,12 @@ final class Check {
     static final Class<?> OUT_OF_RANGE = IllegalArgumentException.class;
     static final Class<?> NOT_POSSIBLE = IllegalStateException.class;
 
-    record Test(String name, Runnable body) { }
+    /** The words are the document's own, in the section named, if the test is one of a single sentence. */
+    record Test(String name, Runnable body, String section, String words) {
+        Test(String name, Runnable body) {
+            this(name, body, "", "");
+        }
+    }
 
     interface Call {
         long answer();
@@ -33,11 +38,19 @@ final class Check {
         }
     }
 
-    /** Checks that the call throws, and that it leaves everything as it was. */
+    /** Checks that the call throws, with a glance at what may have changed; Twins looks at all, with more calls. */
     static void refused(String what, TunnelLamps x, Class<?> due, Call call) {
-        String before = look(x);
+        String before = glance(x);
         same(what, due.getSimpleName(), outcome(call));
-        same(what + " changes nothing", before, look(x));
+        same(what + " changes nothing", before, glance(x));
+    }
+
+    private static String glance(TunnelLamps x) {
+        StringBuilder seen = new StringBuilder();
+        for (int what : new int[] {0, 1, 2, 3, 4, 9, 10}) {
+            seen.append(x.about(what)).append(' ');
+        }
+        return seen.append(x.lad(3)).append(' ').append(x.errorPosition()).toString();
     }
 
     static TunnelLamps withText(String text) {

@@ -87,21 +87,32 @@ final class ForecastTests {
         Check.equal("cell 9 takes 6", 9, x.depthIn(0, 2));
         Check.equal("as far as it is lit", 16, x.depthIn(0, 200));
         Check.equal("another gallery", 8, x.depthIn(1, 200));
+        for (int g = 0; g < 2; g++) {
+            depthInAsByHours(g);
+        }
+    }
+
+    private static TunnelLamps mineWithOwnOrders() {
+        TunnelLamps x = new TunnelLamps();
+        x.gallery(8);
+        x.gallery(8);
+        x.lamp(0, 6, 9, 99);
         x.lamp(1, 7, 2, 99);
-        x.hang(1, 1, 0);
+        x.miner(0, 5);
         x.miner(1, 3);
+        x.hang(1, 1, 0);
         x.set(1, 1);
-        int[][] told = new int[2][201];
+        return x;
+    }
+
+    private static void depthInAsByHours(int g) {
+        TunnelLamps x = mineWithOwnOrders();
+        TunnelLamps y = mineWithOwnOrders();
         for (int n = 1; n <= 200; n++) {
-            told[0][n] = x.depthIn(0, n);
-            told[1][n] = x.depthIn(1, n);
+            y.hours(1);
+            Check.equal("gallery " + g + " behind " + n, y.galleryOf(g, 0), x.depthIn(g, n));
         }
-        for (int n = 1; n <= 200; n++) {
-            x.hours(1);
-            Check.equal("gallery 0 behind " + n, x.galleryOf(0, 0), told[0][n]);
-            Check.equal("gallery 1 behind " + n, x.galleryOf(1, 0), told[1][n]);
-        }
-        Check.equal("the lad has found lamps to move", 1, told[0][200] > 16 ? 1 : 0);
+        Check.equal("the lad has found lamps to move", 1, mineWithOwnOrders().depthIn(0, 200) > 16 ? 1 : 0);
     }
 
     private static void depthInRefuses() {
@@ -282,17 +293,17 @@ final class ForecastTests {
     }
 
     private static void nothingIsChanged() {
-        TunnelLamps x = Check.withText("Tg08g03m14m03l006340l102109s150h0107f106h0002a1t02");
-        x.load();
-        x.store(1);
-        String before = Check.look(x);
-        Check.Call[] calls = {() -> x.darkIn(0), () -> x.depthIn(1, 200), x::doneIn, () -> x.bestCell(1, 0, 100),
-            () -> x.steps(0, 1, 1, 2), () -> x.runScript(3, 100060410000501000L), () -> x.simulate(77, 60)};
-        for (Check.Call call : calls) {
-            long first = call.answer();
+        Twins.Ask[] asks = {x -> x.darkIn(0), x -> x.depthIn(1, 200), TunnelLamps::doneIn, x -> x.bestCell(1, 0, 100),
+            x -> x.steps(0, 1, 1, 2), x -> x.runScript(3, 100060410000501000L), x -> x.simulate(77, 60)};
+        for (Twins.Ask ask : asks) {
+            TunnelLamps x = Check.withText("Tg08g03m14m03l006340l102109s150h0107f106h0002a1t02");
+            x.load();
+            x.store(1);
+            String before = Check.look(x);
+            long first = ask.of(x);
             Check.same("nothing is changed", before, Check.look(x));
-            Check.equal("the same answer", first, call.answer());
+            Check.equal("the same answer", first, ask.of(x));
+            Check.equal("one action", 0, x.undo());
         }
-        Check.equal("one action", 0, x.undo());
     }
 }

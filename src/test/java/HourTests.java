@@ -378,7 +378,7 @@ final class HourTests {
         x.lamp(0, 6, 4, 90);
         x.lamp(1, 2, 4, 30);
         x.set(1, 1);
-        for (int round = 0; round < 100; round++) {
+        for (int round = 0; round < 50; round++) {
             x.store(7);
             if (x.about(10) < 6) {
                 x.fill(round % 2, 1 + round * 7 % 99);

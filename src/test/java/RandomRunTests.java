@@ -4,6 +4,7 @@ import java.util.Random;
 /** Long runs of calls, each answer compared with that of the plain mine. The seeds are fixed: runs are always alike. */
 final class RandomRunTests {
     private static final int RUNS = 300;
+    /** As many as an object is made for. */
     private static final int CALLS = 512;
 
     private final Random random;
@@ -36,6 +37,9 @@ final class RandomRunTests {
     private int count;
 
     private void same(String call, Check.Call program, Check.Call plain) {
+        if (count == CALLS) {
+            return;
+        }
         calls.append(call).append('\n');
         count++;
         String want = Check.outcome(plain);
@@ -54,23 +58,23 @@ final class RandomRunTests {
     }
 
     private int gallery() {
-        return number(0, Math.max(0, x.about(0) - 1));
+        return number(0, Math.max(0, due.about(0) - 1));
     }
 
     private int lamp() {
-        return number(0, Math.max(0, x.about(2) - 1));
+        return number(0, Math.max(0, due.about(2) - 1));
     }
 
     private int miner() {
-        return number(0, Math.max(0, x.about(1) - 1));
+        return number(0, Math.max(0, due.about(1) - 1));
     }
 
     private int order() {
-        return number(0, Math.max(0, x.about(10) - 1));
+        return number(0, Math.max(0, due.about(10) - 1));
     }
 
     private int cell(int g) {
-        return number(0, g >= 0 && g < x.about(0) ? x.galleryOf(g, 0) - 1 : 9);
+        return number(0, g >= 0 && g < due.about(0) ? due.galleryOf(g, 0) - 1 : 9);
     }
 
     private void begin() {
