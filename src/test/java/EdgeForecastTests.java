@@ -29,6 +29,7 @@ final class EdgeForecastTests {
         Sentences depth = new Sentences(tests, "Promise 25");
         depth.test("n: 1 to 200", EdgeForecastTests::depthAmounts);
         depth.test(DEPTH_IN, "each number of hours", EdgeForecastTests::depthAsByHours);
+        depth.test(DEPTH_IN, "each number of hours, with all there may be", EdgeForecastTests::depthWithAll);
         depth.test(DEPTH_IN, "1 and 60", EdgeForecastTests::depthEdges);
         depth.test(NO_GALLERY, () -> noGallery((x, g) -> x.depthIn(g, 1)));
         depth.test(N_OUT_OF_RANGE, () -> Twins.refusedOutside("n", 1, 200, Check.OUT_OF_RANGE, Twins::busy,
@@ -216,6 +217,17 @@ final class EdgeForecastTests {
             for (int n = 1; n <= 200; n++) {
                 y.hours(1);
                 Check.equal("kind " + kind + " behind " + n, y.galleryOf(g, 0), x.depthIn(g, n));
+            }
+        }
+    }
+
+    private static void depthWithAll() {
+        for (int g = 0; g < 3; g++) {
+            TunnelLamps x = Twins.made(Twins::full);
+            TunnelLamps y = Twins.made(Twins::full);
+            for (int n = 1; n <= 200; n++) {
+                y.hours(1);
+                Check.equal("gallery " + g + " behind " + n, y.galleryOf(g, 0), x.depthIn(g, n));
             }
         }
     }

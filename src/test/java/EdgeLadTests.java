@@ -30,6 +30,7 @@ final class EdgeLadTests {
         lad.test(KIND_0, "a lamp without oil, into the last dug cell", EdgeLadTests::hangEmptyLamp);
         lad.test(FETCHES, "one more, as much, one less, none", EdgeLadTests::fetchesAllOrSome);
         lad.test(FETCHES, "of the oil that is there when he is", EdgeLadTests::fetchesWhenThere);
+        lad.test(FETCHES, "none, and he goes on to the lamp", EdgeLadTests::fetchesNone);
         lad.test(POURS, "just full, and one more", EdgeLadTests::pours);
         lad.test(POURS, "into a full one", EdgeLadTests::poursIntoFull);
         lad.test(POURS, "into a lamp that an earlier order has moved", EdgeLadTests::poursIntoMoved);
@@ -245,6 +246,26 @@ final class EdgeLadTests {
         x.hours(1);
         Check.equal("brought just before", 8, x.about(6));
         Check.equal("left", 1, x.about(4));
+    }
+
+    private static void fetchesNone() {
+        TunnelLamps x = galleries(9);
+        x.lamp(0, 5, 1, 0);
+        x.fill(0, 8);
+        x.hours(1);
+        stands("on his way", 0, 4, NONE, x);
+        Check.equal("one step more", 1, x.lad(3));
+        x.store(9);
+        x.save(0);
+        x.hours(1);
+        Check.equal("the order is done", 0, x.about(10));
+        hasThen("what came too late", 0, 9, 0, x);
+        x.restore(0);
+        Check.equal("one step more", 1, x.lad(3));
+        x.hours(1);
+        x.undo();
+        Check.equal("one step more", 1, x.lad(3));
+        Check.equal("an hour more", 1, x.doneIn());
     }
 
     private static void pours() {

@@ -444,6 +444,7 @@ final class EdgeScriptTests {
         }
         for (long seed = -50; seed <= 50; seed++) {
             same("a small seed", Twins::busy, seed, 20);
+            same("a small seed", Twins::full, seed, 20);
         }
     }
 

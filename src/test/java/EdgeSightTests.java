@@ -29,6 +29,7 @@ final class EdgeSightTests {
         about.test(ABOUT, "nothing", EdgeSightTests::aboutNothing);
         about.test(ABOUT, "as much as there may be", EdgeSightTests::aboutMost);
         about.test(ABOUT, "each by itself", EdgeSightTests::aboutEach);
+        about.test(ABOUT, "a lamp that is carried", EdgeSightTests::aboutCarriedLamp);
         about.test(ABOUT, "what is taken back did not come", EdgeSightTests::aboutTakenBack);
         about.test("Throws IllegalArgumentException if what is not 0 to 12", () -> Twins.refusedOutside("what", 0, 12,
                 Check.OUT_OF_RANGE, Twins::busy, TunnelLamps::about));
@@ -154,6 +155,16 @@ final class EdgeSightTests {
         row("in the first hour", new int[] {2, 3, 4, 1, 50, 139, 20, 3, 29, 241, 1, 1, 1}, x::about);
         x.hours(1);
         row("in the second hour", new int[] {2, 3, 4, 2, 50, 156, 0, 6, 29, 241, 0, 3, 3}, x::about);
+    }
+
+    private static void aboutCarriedLamp() {
+        TunnelLamps x = galleries(9);
+        x.lamp(0, 4, 1, 50);
+        x.lamp(0, 0, 1, 20);
+        x.hang(0, 0, 8);
+        x.hours(1);
+        Check.equal("he carries it", 0, x.lad(2));
+        row("its oil is in a lamp still", new int[] {1, 0, 2, 1, 0, 68, 0, 2, 0, 70, 1, 0, 0}, x::about);
     }
 
     private static void aboutTakenBack() {

@@ -12,6 +12,7 @@ final class EdgeSlotTests {
     static void addTo(List<Check.Test> tests) {
         Sentences save = new Sentences(tests, "Promise 31");
         save.test(SAVES, "everything but text and slots", EdgeSlotTests::savesEverything);
+        save.test(SAVES, "with all there may be", EdgeSlotTests::savesAllThereMayBe);
         save.test(SAVES, "as it is now", EdgeSlotTests::savesAsItIsNow);
         save.test("slot: 0 or 1", EdgeSlotTests::twoSlots);
         save.test("Returns the time.", () -> {
@@ -56,6 +57,29 @@ final class EdgeSlotTests {
             twin.hours(60);
             Check.same("it goes on in the same way", Check.look(twin), Check.look(x));
             Check.equal("setting 0", 3, x.set(0, 5));
+            Check.equal("setting 1", 1, x.set(1, 0));
+        }
+    }
+
+    private static void savesAllThereMayBe() {
+        for (int slot = 0; slot < 2; slot++) {
+            TunnelLamps x = Twins.made(Twins::full);
+            String saved = Check.look(x);
+            x.save(slot);
+            x.send(5, 1);
+            x.drop(5);
+            x.store(999);
+            x.set(0, 12);
+            x.set(1, 0);
+            x.hours(60);
+            x.hours(60);
+            x.restore(slot);
+            Check.same("seen", saved, Check.look(x));
+            TunnelLamps twin = Twins.made(Twins::full);
+            x.hours(60);
+            twin.hours(60);
+            Check.same("it goes on in the same way", Check.look(twin), Check.look(x));
+            Check.equal("setting 0", 5, x.set(0, 0));
             Check.equal("setting 1", 1, x.set(1, 0));
         }
     }

@@ -133,6 +133,19 @@ final class EdgeUndoTests {
                 return x.undo();
             });
         }
+        Twins.Ask[] withAll = {x -> x.send(5, 0), x -> x.store(9), x -> x.drop(1), x -> x.drop(5), x -> x.set(0, 12),
+            x -> x.set(1, 0), x -> x.hours(1), x -> x.hours(60)};
+        for (int i = 0; i < withAll.length; i++) {
+            Twins.Ask action = withAll[i];
+            Twins.leftAlone("with all there may be, action " + i, x -> {
+                Twins.full(x);
+                x.save(0);
+                x.restore(0);
+            }, x -> {
+                action.of(x);
+                return x.undo();
+            });
+        }
         Twins.leftAlone("all actions and undo", x -> x.gallery(9), x -> {
             x.gallery(5);
             x.miner(0, 2);
@@ -240,20 +253,11 @@ final class EdgeUndoTests {
 
     /** As many of everything as there may be. */
     private static void full(TunnelLamps x) {
-        for (int g = 0; g < 3; g++) {
-            x.gallery(9);
-        }
-        for (int i = 0; i < 8; i++) {
-            x.lamp(0, i, 1, 50);
-            if (i < 6) {
-                x.miner(0, 1);
-                x.fill(i, 1);
-            }
-        }
-        for (int i = 0; i < 10; i++) {
+        Twins.full(x);
+        for (int i = 0; i < 9; i++) {
             x.store(999);
         }
-        x.store(9);
+        x.store(9999 - x.about(4));
     }
 
     private static void fullText(TunnelLamps x) {

@@ -94,6 +94,30 @@ final class Twins {
         x.send(1, 0);
     }
 
+    /** As many of everything as there may be but oil; in the next hours each account of the mine becomes different. */
+    static void full(TunnelLamps x) {
+        x.gallery(9);
+        x.gallery(59);
+        x.gallery(6);
+        for (int i = 0; i < 8; i++) {
+            x.lamp(i % 3, i % 3 == 1 ? 57 : 3 + i % 3, 2 + i % 2, i < 5 ? 95 + i : i);
+            if (i < 6) {
+                x.miner(i % 3, 1 + i % 5);
+            }
+        }
+        x.store(300);
+        x.set(0, 5);
+        x.fill(0, 60);
+        x.fill(4, 90);
+        x.hours(2);
+        x.set(1, 1);
+        x.hang(2, 0, 8);
+        x.fill(0, 99);
+        x.hang(5, 1, 0);
+        x.fill(6, 1);
+        x.hang(0, 0, 8);
+    }
+
     static Setup busyAnd(Setup more) {
         return x -> {
             busy(x);
