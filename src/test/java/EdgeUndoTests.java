@@ -291,8 +291,9 @@ final class EdgeUndoTests {
 
     private static void rangeBeforeTooMany() {
         Twins.Ask[] asks = {x -> x.gallery(0), x -> x.gallery(61), x -> x.miner(0, 0), x -> x.miner(0, 6),
-            x -> x.lamp(0, 0, 0, 0), x -> x.lamp(0, 0, 1, 100), x -> x.store(1000), x -> x.store(Integer.MAX_VALUE), x -> x.store(-1), x -> x.fill(0, 0),
-            x -> x.fill(0, 100), x -> x.bestCell(0, 0, 0), x -> x.bestCell(0, 0, 101)};
+            x -> x.lamp(0, 0, 0, 0), x -> x.lamp(0, 0, 1, 100), x -> x.store(1000),
+            x -> x.store(Integer.MAX_VALUE), x -> x.store(-1), x -> x.fill(0, 0), x -> x.fill(0, 100),
+            x -> x.bestCell(0, 0, 0), x -> x.bestCell(0, 0, 101)};
         for (int i = 0; i < asks.length; i++) {
             Twins.refused("call " + i, Check.OUT_OF_RANGE, EdgeUndoTests::full, asks[i]);
         }
