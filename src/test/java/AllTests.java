@@ -24,6 +24,7 @@ public final class AllTests {
         EdgeSlotTests.addTo(tests);
         DocumentTests.addTo(tests);
         SourceTests.addTo(tests);
+        ReadmeTests.addTo(tests);
         RandomRunTests.addTo(tests);
         int failed = 0;
         for (Check.Test test : tests) {

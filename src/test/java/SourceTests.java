@@ -15,6 +15,8 @@ import java.util.regex.Pattern;
 final class SourceTests {
     private static final Path SOURCE = Path.of("src/main/java/TunnelLamps.java");
 
+    private static final Path DOCUMENT = Path.of("../shared/DOC.md");
+
     private static final String FACE = "about(int) append(int) bestCell(int,int,int) clearText() darkIn(int)"
             + " depthIn(int,int) doneIn() drop(int) errorPosition() fill(int,int) gallery(int) galleryOf(int,int)"
             + " hang(int,int,int) hours(int) lad(int) lamp(int,int,int,int) lampOf(int,int) lit(int,int) load()"
@@ -25,6 +27,7 @@ final class SourceTests {
 
     static void addTo(List<Check.Test> tests) {
         tests.add(new Check.Test("rule 1: the face", SourceTests::face));
+        tests.add(new Check.Test("The public face: each row of it stands in the source", SourceTests::rows));
         tests.add(new Check.Test("rule 1: nothing else can be seen", SourceTests::nothingElse));
         tests.add(new Check.Test("rules 2 to 13: words that are not to be used", SourceTests::words));
         tests.add(new Check.Test("rule 5: static fields are final", SourceTests::staticFields));
@@ -48,6 +51,23 @@ final class SourceTests {
         Check.equal("public constants", 1, TunnelLamps.class.getFields().length);
         int modifiers = TunnelLamps.class.getModifiers();
         Check.equal("public and final", Modifier.PUBLIC | Modifier.FINAL, modifiers);
+    }
+
+    /** With the names of the arguments and all exceptions, which the compiled class does not tell. */
+    private static void rows() {
+        String document = read(DOCUMENT);
+        String block = document.substring(document.indexOf("```java") + 7);
+        String source = read(SOURCE).replaceAll("\\s+", " ");
+        int rows = 0;
+        for (String line : block.substring(0, block.indexOf("```")).split("\n")) {
+            String row = line.trim();
+            if (!row.isEmpty() && !row.equals("}")) {
+                String due = row.endsWith(");") || row.contains(") throws ") ? row.replace(";", " {") : row;
+                Check.equal("times that the source has: " + due, 1, source.split(Pattern.quote(due), -1).length - 1);
+                rows++;
+            }
+        }
+        Check.equal("rows", 34, rows);
     }
 
     private static void nothingElse() {
@@ -81,7 +101,7 @@ final class SourceTests {
     }
 
     private static void words() {
-        String source = source().replaceAll("\"[^\"]*\"", "\"\"").replaceAll("/\\*\\*.*?\\*/|//[^\n]*", "")
+        String source = read(SOURCE).replaceAll("\"[^\"]*\"", "\"\"").replaceAll("/\\*\\*.*?\\*/|//[^\n]*", "")
                 .replaceAll("(case [^>:]*|default) *->", "");
         for (String word : new String[] {"->", "::", "\\bimport (?!java\\.util\\.)", "\\bpackage\\b", "\\bfinally\\b",
             "\\bassert\\b", "\\bsynchronized\\b", "\\bSystem\\.(?!arraycopy)", "\\bRandom\\b", "\\bThread\\b",
@@ -118,7 +138,7 @@ final class SourceTests {
         Check.equal("at most twelve classes", 1, TunnelLamps.class.getDeclaredClasses().length <= 11 ? 1 : 0);
         int start = -1;
         String indent = "";
-        String[] lines = source().split("\n");
+        String[] lines = read(SOURCE).split("\n");
         for (int i = 0; i < lines.length; i++) {
             Matcher head = Pattern.compile("( {4}| {8})[^ /*}@].*\\{").matcher(lines[i]);
             if (head.matches() && !lines[i].contains(" class ")) {
@@ -131,9 +151,9 @@ final class SourceTests {
         }
     }
 
-    private static String source() {
+    private static String read(Path file) {
         try {
-            return Files.readString(SOURCE);
+            return Files.readString(file);
         } catch (IOException fault) {
             throw new UncheckedIOException(fault);
         }
